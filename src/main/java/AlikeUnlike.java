@@ -7,7 +7,7 @@ public final class AlikeUnlike {
 
     private static final int FIELDS = 8, HIGHEST = 20, FIGURE = 100;
     private static final int MISSING = -1, MISSING_FIGURE = 99;
-    private static final long GREATEST_PERSON = 9999999999999999L;
+    private static final long GREATEST_PERSON = 9999999999999999L, NO_SIDE = -2;
     private static final int MAX_LETTERS = 80, MAX_LETTER = 126, LETTERS_A_CALL = 8;
     private static final int MAX_LAWS = 6, MAX_ROWS = 24, MAX_BOXES = 2000, MAX_SEEKS = 40, MAX_MENDS = 20;
 
@@ -176,7 +176,7 @@ public final class AlikeUnlike {
 
     public long pair(int which) {
         if (which < 0 || which > 1) {
-            return SPENT;
+            return NO_SIDE;
         }
         return search.shown(which);
     }
@@ -381,7 +381,7 @@ public final class AlikeUnlike {
 
     private int ranGuest(int what) {
         if (what == 2) {
-            return bit(form.couldCome(guest, walker));
+            return bit(form.isInSpans(guest) && form.keepsLaws(guest, walker));
         }
         if (!hasProgram()) {
             return NONE;
@@ -428,7 +428,8 @@ public final class AlikeUnlike {
     }
 
     private static boolean isComparison(int letter) {
-        return letter == '<' || letter == '=' || letter == '>';
+        // '<', '=' and '>' are neighbours.
+        return letter >= '<' && letter <= '>';
     }
 
     private static int bit(boolean so) {
@@ -559,13 +560,13 @@ public final class AlikeUnlike {
             }
         }
 
-        boolean couldCome(Person person, Walker walker) {
+        boolean isInSpans(Person person) {
             for (int f = 0; f < FIELDS; f++) {
                 if (!isInSpan(f, person.number(f))) {
                     return false;
                 }
             }
-            return keepsLaws(person, walker);
+            return true;
         }
 
         boolean keepsLaws(Person person, Walker walker) {
@@ -579,8 +580,11 @@ public final class AlikeUnlike {
 
         boolean barsBox(Spanner spanner, int[] spans, int base) {
             for (int i = 0; i < lawCount && i < MAX_LAWS; i++) {
-                if (laws[i] != null && !spanner.mayHold(laws[i], spans, base)) {
-                    return true;
+                if (laws[i] != null) {
+                    spanner.endsOver(laws[i], spans, base);
+                    if (spanner.wasNever()) {
+                        return true;
+                    }
                 }
             }
             return false;
@@ -962,6 +966,8 @@ public final class AlikeUnlike {
                     push(script.number(code - NUMBER));
                 } else if (code < FIELDS) {
                     pushField(person.number(code));
+                } else if (code == '!') {
+                    turn();
                 } else if (code >= PAST_ENDS) {
                     join(code);
                 } else if (code >= LAST_END) {
@@ -1005,22 +1011,25 @@ public final class AlikeUnlike {
             push(number);
         }
 
-        private void join(int letter) {
-            if (letter == '!') {
-                turn();
-            } else if (top >= 2 && top <= MAX_LETTERS) {
-                top--;
-                pile[top - 1] = joined(letter, pile[top - 1], pile[top]);
-            }
-        }
-
         private void turn() {
             if (top >= 1 && top <= MAX_LETTERS && pile[top - 1] != HOST) {
                 pile[top - 1] = HOLDS - pile[top - 1];
             }
         }
 
-        private long joined(int letter, long left, long right) {
+        private void join(int letter) {
+            if (top < 2 || top > MAX_LETTERS) {
+                return;
+            }
+            top--;
+            pile[top - 1] = joined(letter, pile[top - 1], pile[top]);
+            if (readMissing && isComparison(letter)) {
+                pile[top - 1] = HOST;
+                readMissing = false;
+            }
+        }
+
+        private static long joined(int letter, long left, long right) {
             switch (letter) {
                 case '*':
                     return left * right;
@@ -1029,23 +1038,17 @@ public final class AlikeUnlike {
                 case '-':
                     return left - right;
                 case '<':
-                    return compared(left < right);
+                    return left < right ? HOLDS : FAILS;
                 case '=':
-                    return compared(left == right);
+                    return left == right ? HOLDS : FAILS;
                 case '>':
-                    return compared(left > right);
+                    return left > right ? HOLDS : FAILS;
                 // What is not read must not matter: the left side alone tells whether the right one does.
                 case '&':
                     return left == HOLDS ? right : left;
                 default:
                     return left == FAILS ? right : left;
             }
-        }
-
-        private long compared(boolean so) {
-            boolean wasMissing = readMissing;
-            readMissing = false;
-            return wasMissing ? HOST : bit(so);
         }
     }
 
@@ -1071,6 +1074,8 @@ public final class AlikeUnlike {
                     push(script.number(code - NUMBER), script.number(code - NUMBER));
                 } else if (isField(code)) {
                     push(spans[base + 2 * code], spans[base + 2 * code + 1]);
+                } else if (code == '!') {
+                    turn();
                 } else if (code >= PAST_ENDS) {
                     join(code);
                 } else if (code >= LAST_END) {
@@ -1086,9 +1091,9 @@ public final class AlikeUnlike {
             return ends;
         }
 
-        boolean mayHold(Script law, int[] spans, int base) {
-            endsOver(law, spans, base);
-            return highs[0] != 0;
+        /** Whether the LAW gone through last is NEVER so. */
+        boolean wasNever() {
+            return highs[0] == 0;
         }
 
         private void push(long low, long high) {
@@ -1099,22 +1104,23 @@ public final class AlikeUnlike {
             }
         }
 
-        private void join(int letter) {
-            if (top < 1 || top > MAX_LETTERS) {
-                return;
-            }
-            top--;
-            long low = lows[top];
-            long high = highs[top];
-            if (letter == '!') {
-                push(1 - high, 1 - low);
-            } else if (top >= 1) {
-                top--;
-                joinBoth(letter, lows[top], highs[top], low, high);
+        private void turn() {
+            if (top >= 1 && top <= MAX_LETTERS) {
+                long low = lows[top - 1];
+                lows[top - 1] = 1 - highs[top - 1];
+                highs[top - 1] = 1 - low;
             }
         }
 
-        private void joinBoth(int letter, long a, long b, long c, long d) {
+        private void join(int letter) {
+            if (top < 2 || top > MAX_LETTERS) {
+                return;
+            }
+            top -= 2;
+            long a = lows[top];
+            long b = highs[top];
+            long c = lows[top + 1];
+            long d = highs[top + 1];
             switch (letter) {
                 case '*':
                     push(Math.min(Math.min(a * c, a * d), Math.min(b * c, b * d)),
@@ -1321,15 +1327,13 @@ public final class AlikeUnlike {
 
         void runAll(Walker walker, Script script) {
             for (int i = 0; i < size && i < MAX_ROWS; i++) {
-                runs[i] = runOf(i, walker, script);
+                runs[i] = people[i] == null ? NONE : walker.walk(script, people[i]);
             }
         }
 
-        int runOf(int i, Walker walker, Script script) {
-            if (!isRowHere(i) || people[i] == null) {
-                return NONE;
-            }
-            return walker.walk(script, people[i]);
+        /** null, if there is no such ROW. */
+        Person person(int i) {
+            return isRowHere(i) ? people[i] : null;
         }
 
         private boolean isRowHere(int i) {
@@ -1557,7 +1561,8 @@ public final class AlikeUnlike {
             int here = 0;
             int there = 0;
             for (int k = 0; k < size && k < MAX_ROWS; k++) {
-                int let = bit(came.runOf(rows[k], walker, script) == HOLDS);
+                Person person = came.person(rows[k]);
+                int let = bit(person != null && walker.walk(script, person) == HOLDS);
                 if (k < firstSize) {
                     here += let;
                 } else {
