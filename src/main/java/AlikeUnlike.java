@@ -1580,7 +1580,6 @@ public final class AlikeUnlike {
         private int bestPrice;
 
         int find(Form form, Script script, Walker walker, Person from) {
-            tried.copy(from);
             bestPrice = NONE;
             goThrough(form, script, walker, from, 0, 0);
             return bestPrice;

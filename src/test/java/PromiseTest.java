@@ -427,6 +427,34 @@ public final class PromiseTest {
         narrow(x, 0, 1);
         x.field(0, 0, 1);
         seekDue(x, -1, 2000, 1, 7, 3, 4);
+        // MORE in another FIELD than the first: d is better, but for 2.
+        x = with("d=2:0;d>0:1;:0");
+        narrow(x, 0, 2, 3, 2);
+        seekDue(x, 3, 2000, 0, 18, 10, 7);
+        due("first", x.pair(0), 1000000);
+        due("second", x.pair(1), 2000000);
+        seekDue(x, 0, 2000, 1, 21, 10, 11);
+        // Of LAWS each one tells: the second one bars what the first lets.
+        x = with("b=1:1;:0");
+        narrow(x, 0, 1, 1, 1);
+        x.field(1, 0, 1);
+        lay(x, "a<9");
+        lay(x, "!(b=1&a>0)");
+        lay(x, "a=1");
+        seekDue(x, -1, 2000, 1, 7, 3, 4);
+        // Both let: no PAIR of MORE.
+        x = with(":1");
+        seekDue(x, 0, 1, 1, 1, 0, 1);
+        // The most BOXES that can be piled: 16 spans of 21, each cut five times, until the last leaf but one.
+        x = with("a-a+b-b+c-c+d-d+e-e+f-f+g-g+h-h=0&h=1:1;:0");
+        for (int f = 0; f < 8; f++) {
+            x.field(f, 0, f % 2 + 1);
+            x.field(f, 2, 20);
+        }
+        seekDue(x, -1, 82, 0, 82, 80, 1);
+        due("first", x.pair(0), 0);
+        due("second", x.pair(1), 100000000000000L);
+        seekDue(x, -1, 81, SPENT, 81, 80, 1);
         // ENDS of both lines are the same: nothing is cut.
         x = with("a<5:1;:1");
         seekDue(x, -1, 1, 1, 1, 0, 1);
@@ -489,6 +517,17 @@ public final class PromiseTest {
         due("minus", x.ends(300, 305), 3);
         due("minus", x.ends(300, 303), 1);
         due("minus", x.ends(4, 305), 2);
+        due("minus", x.ends(4, 304), 2);
+        x = with("a+b>5:1;:0");
+        due("plus", x.ends(102, 203), 1);
+        due("plus", x.ends(102, 204), 3);
+        due("plus", x.ends(204, 509), 2);
+        due("plus", x.ends(203, 509), 3);
+        x = with("a*b*2>12:1;:0");
+        due("times", x.ends(101, 203), 1);
+        due("times", x.ends(101, 303), 3);
+        due("times", x.ends(107, 307), 2);
+        due("times", x.ends(106, 307), 3);
         x = with("a*b=6:1;:0");
         due("meets", x.ends(1, 507), 3);
         due("one and the same", x.ends(302, 302), 2);
@@ -501,6 +540,7 @@ public final class PromiseTest {
         due("never above", x.ends(0, 3), 1);
         due("maybe above", x.ends(0, 4), 3);
         due("surely above", x.ends(4, 9), 2);
+        due("maybe above", x.ends(3, 9), 3);
         x = with("!a>3&(b=1|b=2):1;:0");
         due("three truths", x.ends(100, 103), 2);
         due("three truths", x.ends(100, 203), 3);
@@ -587,6 +627,8 @@ public final class PromiseTest {
         due("the same", x.gap(1, 3, 3, 0), OUTSIDE);
         due("v", x.gap(1, 21, 0, 0), OUTSIDE);
         due("w", x.gap(1, 0, -1, 0), OUTSIDE);
+        due("no row at 20", x.gap(1, 20, 0, 0), STATE);
+        due("no row at 20", x.gap(1, 0, 20, 0), STATE);
         due("part", x.gap(1, 0, 1, 2), OUTSIDE);
         due("part", x.gap(1, 0, 1, -1), OUTSIDE);
         due("field", x.gap(-1, 0, 0, 2), UNKNOWN);
@@ -661,6 +703,18 @@ public final class PromiseTest {
         whereDue(x, 1, 0, 2, 1, 1, 16);
         x.field(1, 0, 2);
         whereDue(x, NONE, NONE, NONE, NONE, NONE, 0);
+        // The highest number, and tallies that are made anew for each FIELD.
+        x = with("c=20:1;:0");
+        narrow(x, 1, 20, 2, 20);
+        x.field(1, 1, 19);
+        x.field(2, 1, 19);
+        x.row(202000, 0);
+        x.row(191900, 0);
+        whereDue(x, 1, 19, 19, 1, 1, 4);
+        x.row(192000, 0);
+        whereDue(x, 2, 19, 19, 1, 1, 4);
+        x.row(201900, 0);
+        whereDue(x, 2, 19, 19, 1, 1, 4);
         // A gap of nought is a gap, too.
         x = with(":1");
         narrow(x, 3, 1);
@@ -685,6 +739,8 @@ public final class PromiseTest {
         // No good ones in the second group: asking 1 has no share there.
         askingsDue(x, 2, 1, 1, 0, 2, 0, NONE, 1);
         askingsDue(x, 1, 1, 1, 0, 2, 1, 4, 0);
+        askingsDue(x, 2, 0, 2, 1, 1, 0, NONE, 1);
+        askingsDue(x, 4, 1, 1, 0, 1, 1, 2, 0);
         // All good against all bad: of those LET the shares are 1 and 0.
         askingsDue(x, 4, 2, 0, 0, 2, 0, NONE, 1);
         askingsDue(x, 7, 2, 0, 0, 2, 0, NONE, 2);
@@ -737,6 +793,25 @@ public final class PromiseTest {
         x.row(20, 0);
         x.row(119, 0);
         mendDue(x, 1, 0, 1, NONE, 0, 0);
+        // To 0, and by 99.
+        x = with("1>a:1;:0");
+        x.row(0, 0);
+        x.row(105, 0);
+        mendDue(x, 1, 0, 1, 0, 0, 1);
+        x = with("0<a*c:1;:0");
+        x.row(90011, 0);
+        x.row(100, 0);
+        mendDue(x, 1, 0, 1, 0, 99, 99);
+        // Each call by its own groups, whoever else came.
+        x = with("a>4:1;:0");
+        x.row(7, 0);
+        x.row(103, 0);
+        x.row(208, 0);
+        x.row(200, 0);
+        x.row(209, 0);
+        mendDue(x, 1, 0, 1, 0, 2, 2);
+        mendDue(x, 1, 0, 2, 0, 9, 5);
+        mendDue(x, 1, 1, 2, 0, 9, 5);
         x = with("b=0:1;:0");
         x.row(0, 0);
         x.row(99L * 10000 + 100, 0);
@@ -813,6 +888,7 @@ public final class PromiseTest {
         x.row(103, 0);
         x.row(107, 0);
         x.row(99, 0);
+        due("row", x.sameFor(4, 1, 1), UNKNOWN);
         due("row", x.sameFor(3, 1, 1), UNKNOWN);
         due("row", x.sameFor(-1, 1, 1), UNKNOWN);
         due("field", x.sameFor(0, 8, 1), UNKNOWN);
@@ -829,6 +905,9 @@ public final class PromiseTest {
         due("for 9", x.sameFor(0, 1, 9), 0);
         due("of KIN, not read", x.sameFor(0, 2, 9), 20);
         due("the row stays", x.refused(0, 0), 20);
+        x.row(101, 0);
+        due("another row", x.sameFor(3, 2, 0), 30);
+        due("the first one again", x.sameFor(0, 2, 0), 20);
         lay(x, "a<5");
         due("none of 1", x.sameFor(0, 1, 1), NONE);
         due("for 4", x.sameFor(0, 1, 4), 5);
@@ -855,6 +934,11 @@ public final class PromiseTest {
         for (int what = 0; what <= 6; what++) {
             due("count(" + what + ")", x.count(what), due[what]);
         }
+        put(x, "7<a:0;:1");
+        x.program();
+        due("lines of the new one", x.count(0), 2);
+        due("numbers of the new one", x.count(4), 1);
+        due("its number", x.run(8, 0), 0);
         for (int what : new int[] {-1, 7, MIN, MAX}) {
             due("count(" + what + ")", x.count(what), OUTSIDE);
         }
