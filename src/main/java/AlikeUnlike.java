@@ -1595,7 +1595,7 @@ public final class AlikeUnlike {
                 return;
             }
             if (f >= FIELDS) {
-                if (form.keepsLaws(tried, walker) && walker.walk(script, tried) == HOLDS) {
+                if (walker.walk(script, tried) == HOLDS && form.keepsLaws(tried, walker)) {
                     best.copy(tried);
                     bestPrice = price;
                 }
