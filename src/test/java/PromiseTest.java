@@ -1,106 +1,7 @@
 /** Each promise of the document by itself: ordinary inputs, the edges it names, wrong inputs. */
-public final class PromiseTest {
-    private static final int NONE = -1, SPENT = -2, UNKNOWN = -101, OUTSIDE = -102, STATE = -103, FULL = -104;
-    private static final int MIN = Integer.MIN_VALUE, MAX = Integer.MAX_VALUE;
-    private static int wrong = 0;
-    private static int promise = 0;
-
-    private static void due(String call, long got, long want) {
-        if (got != want) {
-            wrong++;
-            System.out.println("promise " + promise + ": " + call + " answered " + got + ", due is " + want);
-        }
-    }
-
-    public static void main(String[] args) {
-        for (promise = 1; promise <= 27; promise++) {
-            test(promise);
-        }
-        System.out.println(wrong == 0 ? "all promises hold" : wrong + " answers are not as due");
-        if (wrong != 0) {
-            System.exit(1);
-        }
-    }
-
-    private static void test(int number) {
-        switch (number) {
-            case 1: newObject(); break;
-            case 2: field(); break;
-            case 3: as(); break;
-            case 4: asks(); break;
-            case 5: letters(); break;
-            case 6: blank(); break;
-            case 7: fault(); break;
-            case 8: program(); break;
-            case 9: law(); break;
-            case 10: strike(); break;
-            case 11: run(); break;
-            case 12: seek(); break;
-            case 13: sought(); break;
-            case 14: pair(); break;
-            case 15: ends(); break;
-            case 16: row(); break;
-            case 17: end(); break;
-            case 18: group(); break;
-            case 19: gap(); break;
-            case 20: odds(); break;
-            case 21: where(); break;
-            case 22: askings(); break;
-            case 23: mend(); break;
-            case 24: refused(); break;
-            case 25: sameFor(); break;
-            case 26: count(); break;
-            default: digest();
-        }
-    }
-
-    private static void put(AlikeUnlike x, String text) {
-        x.blank();
-        for (int i = 0; i < text.length(); i += 8) {
-            x.letters(word(text.substring(i, Math.min(text.length(), i + 8))));
-        }
-        due("letters of " + text, x.count(3), text.length());
-    }
-
-    private static long word(String text) {
-        long w = 0;
-        for (int i = text.length() - 1; i >= 0; i--) {
-            w = w << 8 | text.charAt(i);
-        }
-        return w;
-    }
-
-    private static AlikeUnlike with(String program) {
-        AlikeUnlike x = new AlikeUnlike();
-        put(x, program);
-        due("program " + program, x.program() > 0 ? 1 : 0, 1);
-        return x;
-    }
-
-    private static void lay(AlikeUnlike x, String law) {
-        put(x, law);
-        due("law " + law, x.law() >= 0 ? 1 : 0, 1);
-    }
-
-    /** All SPANS from 0 to 0, but those told as FIELD, greatest. */
-    private static void narrow(AlikeUnlike x, int... spans) {
-        for (int f = 0; f < 8; f++) {
-            x.field(f, 2, 0);
-        }
-        for (int i = 0; i < spans.length; i += 2) {
-            x.field(spans[i], 2, spans[i + 1]);
-        }
-    }
-
-    private static String times(String s, int n) {
-        return s.repeat(n);
-    }
-
-    private static long fold(long h, long... numbers) {
-        for (long n : numbers) {
-            h = 31 * h + n;
-        }
-        return h;
+public final class PromiseTest extends Dues {
+    public static void main(String[] args) throws Exception {
+        runAll(PromiseTest.class);
     }
 
     private static void newObject() {
@@ -383,13 +284,6 @@ public final class PromiseTest {
         due(program + " on " + person, with(program).run(person, 0), end);
     }
 
-    private static void seekDue(AlikeUnlike x, int f, int boxes, int... answer) {
-        due("seek(" + f + ", " + boxes + ")", x.seek(f, boxes), answer[0]);
-        for (int what = 0; what < 3; what++) {
-            due("sought(" + what + ")", x.sought(what), answer[what + 1]);
-        }
-    }
-
     private static void seek() {
         AlikeUnlike x = new AlikeUnlike();
         due("f -2", x.seek(-2, 0), UNKNOWN);
@@ -668,12 +562,6 @@ public final class PromiseTest {
         due("2 of C(24, 12)", x.odds(1, 0, 1, 1), 1352078);
     }
 
-    private static void whereDue(AlikeUnlike x, int... due) {
-        for (int what = 0; what <= 5; what++) {
-            due("where(" + what + ")", x.where(what), due[what]);
-        }
-    }
-
     private static void where() {
         AlikeUnlike x = new AlikeUnlike();
         due("what 6", x.where(6), OUTSIDE);
@@ -723,13 +611,6 @@ public final class PromiseTest {
         whereDue(x, 3, 0, 0, 0, 1, 2);
     }
 
-    private static void askingsDue(AlikeUnlike x, int set, int g, int b, int h, int c, int... due) {
-        for (int what = 0; what <= 2; what++) {
-            due("askings(" + set + ", " + g + ", " + b + ", " + h + ", " + c + ", " + what + ")",
-                    x.askings(set, g, b, h, c, what), due[what]);
-        }
-    }
-
     private static void askings() {
         AlikeUnlike x = new AlikeUnlike();
         askingsDue(x, 0, 9, 9, 9, 9, 1, 36, 0);
@@ -756,12 +637,6 @@ public final class PromiseTest {
         due("c", x.askings(0, 0, 0, 0, MAX, 0), OUTSIDE);
         due("what 3", x.askings(0, 0, 0, 0, 0, 3), OUTSIDE);
         due("what -1", x.askings(0, 0, 0, 0, 0, -1), OUTSIDE);
-    }
-
-    private static void mendDue(AlikeUnlike x, int f, int v, int w, int... due) {
-        for (int what = 0; what <= 2; what++) {
-            due("mend(" + f + ", " + v + ", " + w + ", " + what + ")", x.mend(f, v, w, what), due[what]);
-        }
     }
 
     private static void mend() {
@@ -826,13 +701,6 @@ public final class PromiseTest {
         due("mend 20", x.mend(1, 0, 1, 0), STATE);
         due("OUTSIDE is ahead", x.mend(1, 0, 1, 9), OUTSIDE);
         due("count", x.count(6), 20);
-    }
-
-    private static void refusedDue(AlikeUnlike x, int row, int price, int... numbers) {
-        due("refused(" + row + ", 0)", x.refused(row, 0), price);
-        for (int f = 0; f < 8; f++) {
-            due("refused(" + row + ", 1" + f + ")", x.refused(row, 10 + f), price == NONE ? NONE : numbers[f]);
-        }
     }
 
     private static void refused() {
