@@ -137,13 +137,14 @@ public final class CameBoundaryTest extends Dues {
     // Promise 18: "what = 0 how many, 1 LET, 2 good, 3 good and LET"
     private static void whatOfAGroup() {
         AlikeUnlike x = with("a=1:1;:0");
-        for (int out = -1; out <= 1; out++) {
-            due("LET", x.row(1, out) > 0 ? 1 : 0, 1);
-            due("refused", x.row(0, out) > 0 ? 1 : 0, 1);
-            due("the host refuses", x.row(99, out) > 0 ? 1 : 0, 1);
-            due("in another group", x.row(101, out) > 0 ? 1 : 0, 1);
+        // Of each sort of PERSON one not known, two bad and three good, but one good one alone is LET.
+        int[] outs = {NOT_KNOWN, BAD, BAD, GOOD, GOOD, GOOD};
+        for (int i = 0; i < 6; i++) {
+            due("LET", x.row(i < 4 ? 1 : 101, outs[i]) > 0 ? 1 : 0, 1);
+            due("refused", x.row(0, outs[i]) > 0 ? 1 : 0, 1);
+            due("the host refuses", x.row(99, outs[i]) > 0 ? 1 : 0, 1);
         }
-        int[] due = {9, 3, 3, 1};
+        int[] due = {16, 4, 7, 1};
         for (int what = 0; what <= 3; what++) {
             due("what " + what, x.group(1, 0, what), due[what]);
         }
@@ -638,6 +639,11 @@ public final class CameBoundaryTest extends Dues {
         mendDue(x, 1, 0, 1, 0, 6, 2);
         due("THE PROGRAM stays", x.run(5, 0), 1);
         due("RUNS of ROWS stay", x.end(2), 1);
+        // Whoever else came does not matter.
+        rows(x, 209, 200, 9909, 9900);
+        mendDue(x, 1, 0, 1, 0, 6, 2);
+        mendDue(x, 1, 1, 0, 0, 6, 2);
+        mendDue(x, 1, 0, 2, NONE, 0, 0);
     }
 
     // Promise 23: "UNKNOWN, OUTSIDE (also what), STATE, as gap()"

@@ -211,6 +211,11 @@ public final class CouldComeBoundaryTest extends Dues {
         seekDue(withTwoNumbers("a=1:0;:1", PLAIN), 0, 2000, 0, 4, 2, 1);
         // The first one's is 0, the second one has both: not done.
         seekDue(withTwoNumbers("a=1:1;:0", PLAIN), 0, 2, SPENT, 2, 2, 0);
+        // The first one has both, the second one's is 0: (0..1, 2) is the eighth, and not done.
+        AlikeUnlike x = withSpan("a=1:1;:0", 0, 2);
+        seekDue(x, 0, 8, SPENT, 8, 5, 3);
+        seekDue(x, 0, 2000, 0, 10, 5, 4);
+        pairDue(x, 1, 2);
     }
 
     // Promises 12, 13: "A BOX of single numbers that is not done is a PAIR."
@@ -288,6 +293,19 @@ public final class CouldComeBoundaryTest extends Dues {
         x = withSpan("a=1|a=3:0;:1", 0, 3);
         seekDue(x, 0, 2000, 0, 6, 4, 1);
         pairDue(x, 0, 1);
+    }
+
+    // Promise 12: "each its own in others"; "A SPAN from least to greatest (0 to 20; 0 to 9 at first)"
+    private static void allSpansOfTwentyOne() {
+        AlikeUnlike x = with("a-a+b-b+c-c+d-d+e-e+f-f+g-g+h-h=0&h=1:1;:0");
+        for (int f = 0; f < 8; f++) {
+            x.field(f, KIND, f % 2 + 1);
+            x.field(f, GREATEST, 20);
+        }
+        // 16 spans, each single after five cuts; then (0, 0) in h is done, and (0, 1) the PAIR.
+        seekDue(x, NONE, 81, SPENT, 81, 80, 1);
+        seekDue(x, NONE, 82, 0, 82, 80, 1);
+        pairDue(x, 0, unit(7));
     }
 
     // ---- promise 13
@@ -571,7 +589,8 @@ public final class CouldComeBoundaryTest extends Dues {
     // Promises 12, 15: ""!", "&", "|" as of three truths"
     private static void threeTruths() {
         // a=1 is MAYBE, b=1 is SURE, c=1 is NEVER.
-        String[] maybe = {"a=1", "!a=1", "!!a=1", "a=1&b=1", "b=1&a=1", "a=1|c=1", "c=1|a=1", "a=1&a=1", "a=1|!a=1", "a=1&!a=1", "!(a=1&b=1)"};
+        String[] maybe = {"a=1", "!a=1", "!!a=1", "a=1&b=1", "b=1&a=1", "a=1|c=1", "c=1|a=1", "a=1&a=1", "a=1|!a=1", "a=1&!a=1", "!(a=1&b=1)",
+            "!a=1&b=1", "b=1&!a=1", "!a=1|c=1", "c=1|!a=1", "!(a=1|c=1)&b=1", "!!a=1&b=1"};
         String[] sure = {"b=1", "!c=1", "a=1|b=1", "b=1|a=1", "!(a=1&c=1)", "b=1&b=1", "c=1|b=1", "!!b=1"};
         String[] never = {"c=1", "!b=1", "a=1&c=1", "c=1&a=1", "!(a=1|b=1)", "b=1&c=1", "c=1|c=1", "!!c=1"};
         for (String one : maybe) {
