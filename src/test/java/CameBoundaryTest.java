@@ -31,7 +31,7 @@ public final class CameBoundaryTest extends Dues {
         }
     }
 
-    // Promise 16: "FULL."
+    // Promise 16: "ROWS (24 at most)"; "FULL."
     private static void twentyFourAtMost() {
         AlikeUnlike x = with("a=7:1;:0");
         for (int i = 1; i <= 24; i++) {
@@ -413,7 +413,7 @@ public final class CameBoundaryTest extends Dues {
         due("by h alone, but 20 in a", x.where(5), 40 + 1);
     }
 
-    // Promise 21: "the one with the greatest GAP between in and out"
+    // Promise 21: "the one with the greatest GAP between in and out"; "1 least, 2 greatest number, 3 GAP above, 4 below in lowest terms, 5 PAID"
     private static void theGreatestGap() {
         AlikeUnlike x = with("a=1:1;:0");
         narrow(x, 0, 2);
@@ -532,7 +532,7 @@ public final class CameBoundaryTest extends Dues {
         askingsDue(x, 1, 0, 3, 0, 3, 1, 6, 0);
     }
 
-    // Promise 22: "0 the same share of all is LET; 1 of the good; 2 of those LET the same share is good"
+    // Promise 22: "0 the same share of all is LET; 1 of the good; 2 of those LET the same share is good"; "what = 0 TOGETHER (1, 0), 1 MOST (NONE), 2 GIVEN UP, how many."
     private static void eachAsking() {
         AlikeUnlike x = new AlikeUnlike();
         // One good and one bad, one good and two bad: all LET is the same share of all, and of the good.
@@ -598,7 +598,7 @@ public final class CameBoundaryTest extends Dues {
         mendDue(x, 7, 0, 1, 0, 9, 2);
     }
 
-    // Promise 23: "least changed; of like ones the least i, then the lesser number"
+    // Promise 23: "least changed; of like ones the least i, then the lesser number"; "what = 0 which number of THE PROGRAM, 1 what it becomes, 2 by how much it is changed"
     private static void leastChanged() {
         // i 0 by 3 (to 7), i 1 by 1 (to 7).
         mendDue(withTwo("a>4&a<8:1;:0", 7, 9), 7, 0, 1, 1, 7, 1);

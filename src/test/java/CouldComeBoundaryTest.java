@@ -29,7 +29,7 @@ public final class CouldComeBoundaryTest extends Dues {
 
     // ---- promise 12
 
-    // Promise 12: "within so many BOXES (1 to 2000)"
+    // Promise 12: "within so many BOXES (1 to 2000)"; "each BOX that is looked at is CUT or done"
     private static void oneToTwoThousand() {
         AlikeUnlike x = with("a-a+b-b+c-c=1:1;:0");
         for (int boxes : new int[] {0, -1, 2001, MIN, MAX}) {
@@ -133,6 +133,37 @@ public final class CouldComeBoundaryTest extends Dues {
         seekDue(x, 0, 2000, 1, 7, 3, 4);
         due("in b itself", x.seek(1, 2000), 0);
         pairDue(x, 0, 100);
+    }
+
+    // Promises 12, 14: "a BOX: for each FIELD a span of the first one's, a span of the second one's numbers; where it is told, both have the same number: one span."
+    private static void oneSpanForBoth() {
+        AlikeUnlike x = with("c=2&a=1:1;:0");
+        narrow(x, 0, 1, 2, 2);
+        x.field(0, KIND, BARRED);
+        // (0..1, 0..1) with c of 0..2, 0..1, then of 2; (0, 0..1), (0, 0), (0, 1).
+        seekDue(x, NONE, 2000, 0, 6, 3, 2);
+        pairDue(x, 20000, 20001);
+        // MORE: each FIELD but a is one span, though it does not COUNT.
+        x.field(2, KIND, BARRED);
+        tell(x, "c=2&a=1:0;:1");
+        seekDue(x, 0, 2000, 0, 6, 3, 2);
+        pairDue(x, 20000, 20001);
+    }
+
+    // Promises 12, 14: "1 (no PAIR: it holds), 0 (a PAIR is shown), SPENT"; "(MORE: single numbers with the second one's greater than the first one's.)"
+    private static void theSecondOnesGreater() {
+        AlikeUnlike x = withSpan("a=2:0;:1", 0, 2);
+        // (0..2, 0..2), (0..1, 0..2), (0..1, 0..1); (0..1, 2) has END 1 and END 0, but is not of single numbers: it is CUT.
+        seekDue(x, 0, 4, SPENT, 4, 3, 1);
+        seekDue(x, 0, 5, 0, 5, 3, 1);
+        pairDue(x, 0, 2);
+        // Less that is refused is no PAIR of MORE, nor is the same number.
+        tell(x, "a=0:0;:1");
+        due("it holds", x.seek(0, 2000), 1);
+        tell(x, "a=1:1;:0");
+        x.field(0, GREATEST, 1);
+        due("it holds", x.seek(0, 2000), 1);
+        pairDue(x, -1, -1);
     }
 
     // Promise 12: "from the one of all SPANS on"

@@ -52,7 +52,7 @@ public final class RefusedBoundaryTest extends Dues {
         refusedDue(x, 0, NONE);
     }
 
-    // Promise 24: "STATE: there is no PROGRAM, a number is MISSING, or its RUN is not 0."
+    // Promise 24: "STATE: there is no PROGRAM, a number is MISSING, or its RUN is not 0."; "REFUSED: a ROW without MISSING numbers, whose RUN is 0"
     private static void notRefused() {
         AlikeUnlike x = new AlikeUnlike();
         x.field(0, KIND, MAY);

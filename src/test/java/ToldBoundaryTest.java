@@ -112,7 +112,7 @@ public final class ToldBoundaryTest extends Dues {
         due("two ROWS", x.digest(), wrapped(joined(fieldsAtFirst(), two, runs, new long[] {0, 0, 2, 0, 0, 0, 0})));
     }
 
-    // Promise 27: "its RUN (-1 without a PROGRAM)"; "where() for 0 to 5"
+    // Promise 27: "of each ROW its number of base 100, what was out, its RUN (-1 without a PROGRAM)"; "where() for 0 to 5"
     private static void withAProgram() {
         AlikeUnlike x = with("a=2:1;:0");
         rows(x, 0, 2, 99);
