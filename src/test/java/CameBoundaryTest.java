@@ -640,10 +640,11 @@ public final class CameBoundaryTest extends Dues {
         due("THE PROGRAM stays", x.run(5, 0), 1);
         due("RUNS of ROWS stay", x.end(2), 1);
         // Whoever else came does not matter.
-        rows(x, 209, 200, 9909, 9900);
+        rows(x, 209, 208, 9907);
         mendDue(x, 1, 0, 1, 0, 6, 2);
         mendDue(x, 1, 1, 0, 0, 6, 2);
-        mendDue(x, 1, 0, 2, NONE, 0, 0);
+        // Of group 2 one of two would be by 8.
+        mendDue(x, 1, 0, 2, 0, 8, 4);
     }
 
     // Promise 23: "UNKNOWN, OUTSIDE (also what), STATE, as gap()"
