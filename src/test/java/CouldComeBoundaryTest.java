@@ -609,6 +609,11 @@ public final class CouldComeBoundaryTest extends Dues {
         truthDue("a*b<9", 301, 402, END_1);
         truthDue("a*b=0", 0, 402, BOTH);
         truthDue("a*b=0", 0, 400, END_1);
+        truthDue("a*b=0", 300, 400, END_1);
+        truthDue("b*a=0", 300, 400, END_1);
+        truthDue("a*b=1", 101, 101, END_1);
+        truthDue("a*b=2", 101, 102, BOTH);
+        truthDue("a*b>2", 101, 102, END_0);
         // 2*a*b is 6 to 16, and c less it is below 0.
         truthDue("2*a*b<6", 301, 402, END_0);
         truthDue("2*a*b>16", 301, 402, END_0);
